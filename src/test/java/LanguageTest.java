@@ -58,6 +58,15 @@ public final class LanguageTest {
         faulty("Event 1=1;", 1, 0);
         faulty("event WAY=1;", 1, 6);
         faulty("event way_=1;", 1, 9);
+        // all letters belong to the word they stand at, the first and the last ones too
+        for (char letter : new char[] {'a', 'z', 'A', 'Z'}) {
+            faulty("event way" + letter + "=1;", 1, 6);
+        }
+        for (char sign : new char[] {'`', '{', '@', '['}) {
+            faulty("event way" + sign + "=1;", 1, 9);
+        }
+        faulty("turn 0/;", 1, 6);
+        faulty("turn 0:;", 1, 6);
         faulty("event @=1;", 1, 6);
         faulty("turn 0:", 1, 6);
     }
@@ -302,5 +311,8 @@ public final class LanguageTest {
         means("1=2" + "or 1=1".repeat(40) + "and 1=2", 0, true);
         String full = "event " + "1+".repeat(145) + "1=1 ";
         faulty(full, 1, 300);
+        faulty(";".repeat(300), 1, 0);
+        faulty("event " + "-".repeat(294), 3, 14);
+        faulty("event " + "(".repeat(8) + "1" + ")".repeat(285), 1, 23);
     }
 }

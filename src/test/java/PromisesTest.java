@@ -83,6 +83,10 @@ public final class PromisesTest {
         WhatWasNearly x = new WhatWasNearly();
         due.is("3 256", x.piece(256, 0, 0, 0), NONE);
         due.is("3 -1", x.piece(0, -1, 0, 0), NONE);
+        due.is("3 nought 256", x.piece(0, 256, 0, 0), NONE);
+        due.is("3 one -1", x.piece(-1, 0, 0, 0), NONE);
+        due.is("3 comes -1", x.piece(0, 0, -1, 0), NONE);
+        due.is("3 not 1024", x.piece(0, 0, 0, 1024), NONE);
         due.is("3 1024", x.piece(0, 0, 1024, 0), NONE);
         due.is("3 not -1", x.piece(0, 0, 0, -1), NONE);
         due.is("3 a choice in both", x.piece(6, 12, 0, 0), NONE);
