@@ -6,8 +6,9 @@ import java.util.regex.Matcher;
 import java.util.regex.Pattern;
 
 /**
- * The document once more, written without a look at the class: slow, by trying all there is, with
- * the whole Java library. Every method bears the name and the parameters of the one it checks.
+ * The document once more, in other ways than the class: slow, by trying all there is, with the
+ * whole Java library. Every method bears the name and the parameters of the one it checks. It was
+ * written by the same hand, so it finds slips, not wrong readings of the document.
  */
 public final class Plain {
     private static final int NONE = -1;
