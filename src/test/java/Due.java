@@ -1,18 +1,38 @@
+import java.util.function.Supplier;
+import java.util.function.ToIntFunction;
+
 /** Counts answers that are not the ones that are due; tests share it. */
 final class Due {
     private int asked;
     private int wrong;
+    private String sentence = "";
+
+    /** What the answers from now on are of: it is said with each one that is wrong. */
+    void sentence(String words) {
+        sentence = words + "\n    ";
+    }
+
+    int asked() {
+        return asked;
+    }
 
     void is(String call, long got, long want) {
         asked++;
         if (got != want) {
             wrong++;
-            System.out.println(call + " answered " + got + ", due is " + want);
+            System.out.println(sentence + call + " answered " + got + ", due is " + want);
         }
     }
 
     void is(String call, boolean got, boolean want) {
         is(call, got ? 1 : 0, want ? 1 : 0);
+    }
+
+    /** A call on a new museum that is refused so: all that the museum shows is as without the call. */
+    void refuses(String call, Supplier<WhatWasNearly> made, ToIntFunction<WhatWasNearly> refused, int answer) {
+        WhatWasNearly x = made.get();
+        is(call, refused.applyAsInt(x), answer);
+        is(call + " leaves all as it was", Museums.shown(x).equals(Museums.shown(made.get())), true);
     }
 
     /** Says how it went; ends the program with 1 if an answer was wrong. */
