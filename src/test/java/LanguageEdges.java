@@ -41,6 +41,10 @@ final class LanguageEdges {
         faulty(due, Museums.LONGEST.substring(0, 299) + ",", 1, 299);
         faulty(due, Museums.LONGEST.substring(0, 299), 1, 299);
         fine(due, " ".repeat(300), "");
+        // as many tokens as bytes
+        faulty(due, ";".repeat(300), 1, 0);
+        faulty(due, "1(".repeat(150), 1, 0);
+        faulty(due, "(1".repeat(150), 1, 0);
     }
 
     @Says("TOKENS, blanks (32, 10) aside:")
@@ -558,6 +562,11 @@ final class LanguageEdges {
             "event -1" + "+-1".repeat(10) + "=1;", "event not was 0" + " and not was 0".repeat(10) + ";",
             "event count(1=1)" + "+count(1=1)".repeat(9) + "=1;", "event not 1=1 and 1=" + "-".repeat(8) + "1;",
             "event -1-" + "-".repeat(8) + "1=1;", "event -1*" + "-".repeat(8) + "1=1;");
+        // what is open ends at so, or, and
+        for (String join : new String[] {"so", "or", "and"}) {
+            fine(due, "event ---1=1 " + join + " " + "-".repeat(8) + "1=1;");
+            faulty(due, "event 1=1 " + join + " ".repeat(4 - join.length()) + "-".repeat(9) + "1=1;", 3, 22);
+        }
         // a not is open over all of its ask
         faulty(due, "event not 1=" + "-".repeat(8) + "1;", 3, 19);
         faulty(due, "event " + "(".repeat(8) + "1+-1" + ")".repeat(8) + "=1;", 3, 16);
@@ -627,6 +636,9 @@ final class LanguageEdges {
         WhatWasNearly x = Due.ruled("event 1=1;event 1=1;may done=2 and was 0;event 1=1;", 1);
         due.is("so", x.mayBe(1), 1);
         due.is("not so", x.mayBe(0), 0);
+        WhatWasNearly w = Due.ruled("turn 0;event 1=1;take 0;may done=1 and was 0;set 0 to 1;event 1=1;put 0 in 0;", 1);
+        due.is("so, among deeds", w.mayBe(1), 1);
+        due.is("not so, among deeds", w.mayBe(0), 0);
         WhatWasNearly y = Due.ruled("may done=0;event 1=1;", 0);
         due.is("none ahead", y.mayBe(0), 1);
         WhatWasNearly z = Due.ruled("event 1=1;".repeat(10) + "may done=10;", 0);
@@ -637,6 +649,8 @@ final class LanguageEdges {
     static void withoutMay(Due due) {
         WhatWasNearly x = Due.ruled("event was 0;", 8);
         due.is("without may", x.left(NONE), 256);
+        WhatWasNearly y = Due.ruled("turn 0;choice 1 odds 1;room 1 for 1;set 0 to 1;put 0 in 0;take 0;event 1=1;turn 0;", 8);
+        due.is("without may, among deeds", y.left(NONE), 256);
         Due.text(x, "may 1=2;");
         x.by(1);
         due.is("by one that says never", x.left(NONE), 0);
@@ -666,6 +680,10 @@ final class LanguageEdges {
         due.is("as by hand", Museums.shown(x).equals(Museums.shown(y)), true);
         WhatWasNearly z = Due.ruled("", 0);
         due.is("a text without a clause", z.played(0), NONE);
+        WhatWasNearly v = Due.ruled("event was 1;may was 0;choice 0 odds 5;choice 1 odds 5;", 0);
+        due.is("while it rules", v.played(0), NONE);
+        due.is("what follows from the new ways", v.follows(2) * 10 + v.follows(3), 11);
+        due.is("which of them may be", v.mayBe(1) * 1000 + v.mayBe(2) * 100 + v.mayBe(3), 1001);
         due.refuses("a text of laws alone", () -> Due.ruled("event 1=1;may 1=2;", 2), w -> w.played(0), NONE);
     }
 

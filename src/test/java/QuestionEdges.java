@@ -7,21 +7,41 @@ final class QuestionEdges {
 
     @Says("All that follows changes nothing.")
     static void changesNothing(Due due) {
-        due.refuses("all questions of a bare one", Museums::bare, QuestionEdges::askAll, 0);
-        due.refuses("all questions of some", Museums::some, QuestionEdges::askAll, 0);
-        due.refuses("all questions of a full one", Museums::full, QuestionEdges::askAll, 0);
+        due.refuses("all questions of a bare one", Museums::bare, x -> answers(x).isEmpty() ? 0 : 1, 1);
+        due.refuses("all questions of some", Museums::some, x -> answers(x).isEmpty() ? 0 : 1, 1);
+        due.refuses("all questions of a full one", Museums::full, x -> answers(x).isEmpty() ? 0 : 1, 1);
+        due.is("and they are answered alike", answersTwice(Museums.some()), true);
+        due.is("of a full one, too", answersTwice(Museums.full()), true);
     }
 
-    private static int askAll(WhatWasNearly x) {
-        int[] numbers = {x.was(), x.ofChoice(0, 0), x.ofPiece(0, 0), x.ofRoom(0, 0), x.agrees(0, 0), x.follows(0),
-            x.mayBe(0), x.cannot(), x.most(1, true), x.most(1, false), x.clash(1), x.left(NONE), x.left(0),
-            x.sure(true), x.sure(false), x.ask(0), x.halves(), x.leanOn(0), x.agreeIn(0), x.elders(0), x.nextDoor(),
-            x.empty(), x.least(0, true), x.least(0, false), x.noMatter(0), x.turnsIt(0, 0, true),
-            x.turnsIt(0, 0, false), x.there(0, 0), x.thereIn(0), x.lookedFor(0), x.walk(0, 1, NONE), x.walk(0, 1, 0),
-            x.differ(0, 1, 0), x.unlike(0, 1), x.gifts(), x.chance(0, true), x.chance(0, false), x.chanceOf(0, true),
-            x.chanceOf(0, false), x.nearly(0), x.laidOut(1, NONE), x.laidOut(1, 0), x.laidOut(63, 5), x.alike(0),
-            x.fault(0), x.fault(1), x.about(0), x.about(10)};
-        return numbers.length > 0 ? 0 : NONE;
+    private static boolean answersTwice(WhatWasNearly x) {
+        return answers(x).equals(answers(x));
+    }
+
+    /**
+     * The answers to all questions that change nothing, of all numbers that there are and some others.
+     * Twice that is more than 512 calls, of which the document promises nothing; the class counts none.
+     */
+    private static String answers(WhatWasNearly x) {
+        StringBuilder all = new StringBuilder();
+        append(all, x.was(), x.cannot(), x.halves(), x.nextDoor(), x.empty(), x.gifts(), x.left(NONE), x.sure(true),
+            x.sure(false), x.differ(0, 1, 0), x.unlike(0, 1), x.fault(0), x.fault(1));
+        for (int i = -1; i <= 10; i++) {
+            append(all, x.ofChoice(i, 0), x.ofChoice(i, 1), x.ofPiece(i, 0), x.ofPiece(i, 4), x.ofRoom(i, 0),
+                x.ofRoom(i, 2), x.agreeIn(i), x.elders(i), x.thereIn(i), x.leanOn(i), x.about(i));
+            append(all, x.ask(i), x.least(i, true), x.least(i, false), x.noMatter(i), x.turnsIt(0, i, true),
+                x.turnsIt(1, i, false), x.chance(i, true), x.chance(i, false), x.nearly(i));
+            append(all, x.agrees(0, i), x.follows(i), x.mayBe(i), x.left(i), x.there(0, i), x.lookedFor(i),
+                x.walk(0, i, NONE), x.walk(i, 1, 0), x.chanceOf(i, true), x.chanceOf(i, false), x.alike(i));
+        }
+        for (int set : new int[] {0, 1, 2, 3, 7, 63, 1023}) {
+            append(all, x.most(set, true), x.most(set, false), x.clash(set), x.laidOut(set, NONE), x.laidOut(set, 0));
+        }
+        return all.toString();
+    }
+
+    private static void append(StringBuilder all, int... numbers) {
+        all.append(Arrays.toString(numbers)).append('\n');
     }
 
     @Says("FOLLOWS from a WAY: EVENTS (bits) that come; whether it may be.")
@@ -564,6 +584,10 @@ final class QuestionEdges {
         }
         due.is("others are in all rooms", x.laidOut(0b1111100000, NONE), 3);
         due.is("those of the set are there, too", x.laidOut(0b0000111111, NONE), 5);
+        x.set(1, 0);
+        due.is("none agrees any more", x.laidOut(0b1111100000, NONE), 0);
+        x.set(0, 1);
+        due.is("with the other room", x.laidOut(0b1111100000, NONE), 2);
     }
 
     @Says("of like ones the lowest ROOM (none behind all) for the lowest PIECE, then the next, ..: how many, the ROOM of a "
@@ -701,6 +725,10 @@ final class QuestionEdges {
         // by seed 9998: 20085: 1 of 4; 5021 by 4, of 256: 157; room 20085 of 4: 1
         y.years(9998, 1);
         due.is("a later way", y.ofRoom(1, 0), 157);
+        WhatWasNearly z = Due.ruled("", 1);
+        z.room(1, 1);
+        z.years(0, 1);
+        due.is("the only room", z.ofRoom(0, 0), 0);
     }
 
     @Says("2 PIECE x mod how many there are is PUT in ROOM x mod how many there are (if it has room, and it isn't there);")
@@ -724,6 +752,11 @@ final class QuestionEdges {
         x.take(0);
         x.years(1, 2);
         due.is("out of the one it is in", x.ofPiece(2, 4), 0);
+        WhatWasNearly y = new WhatWasNearly();
+        y.piece(0, 0, 0, 0);
+        y.room(0, 1);
+        y.years(1, 2);
+        due.is("the only piece, in the only room", y.ofPiece(0, 4), 0);
     }
 
     @Says("3 that PIECE is TAKEN (if it is in one).")
@@ -739,6 +772,12 @@ final class QuestionEdges {
         due.is("the second is taken", x.ofRoom(0, 2), 511 - 2);
         x.years(1, 1);
         due.is("it is in none", x.ofRoom(0, 2), 511 - 2);
+        WhatWasNearly y = new WhatWasNearly();
+        y.room(0, 1);
+        y.piece(0, 0, 0, 0);
+        y.put(0, 0);
+        y.years(1, 1);
+        due.is("the only piece", y.ofPiece(0, 4), NONE);
     }
 
     @Says("What there are none of isn't.")
@@ -796,6 +835,20 @@ final class QuestionEdges {
         due.refuses("some changed, and back", () -> imaged(Museums.some()), QuestionEdges::changeAndGoBack, 0);
         due.refuses("full changed, and back", () -> imaged(Museums.full()), QuestionEdges::changeAndGoBack, 0);
         due.refuses("bare changed, and back", () -> imaged(Museums.bare()), QuestionEdges::changeAndGoBack, 0);
+        // fewer ways again: what is known of the others mustn't be heard
+        WhatWasNearly y = Due.ruled("event was 0;event way>=4;event way=4;event way=5;", 2);
+        for (int i = 0; i < 3; i++) {
+            y.piece(1, 0, 0, 0);
+            y.person(i, NONE, NONE);
+        }
+        y.room(0, 2);
+        y.image();
+        String before = answers(y);
+        y.choice(0, 9);
+        y.choice(1, 9);
+        answers(y);
+        y.back();
+        due.is("all answers", answers(y).equals(before), true);
     }
 
     private static WhatWasNearly imaged(WhatWasNearly x) {

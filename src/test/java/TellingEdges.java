@@ -264,6 +264,11 @@ final class TellingEdges {
         due.is("a text without one gets the number", Due.text(x, "event 1=2;"), 1);
         due.is("nothing is left of what had a fault", x.differ(0, 1, 0), 0);
         due.is("its events", x.by(1) ? x.about(9) : NONE, 1);
+        due.is("a may with a fault behind it", Due.text(x, "may 1=1;@"), NONE);
+        due.is("isn't the first may", Due.text(x, "may 1=1;"), 2);
+        due.is("a long one with a fault at its end", Due.text(x, Museums.LONGEST.substring(0, 299)), NONE);
+        due.is("leaves room for another", Due.text(x, "event " + "1+".repeat(143) + "1=144;"), 3);
+        due.is("which is so", x.by(3) ? x.follows(0) : NONE, 1);
     }
 
     @Says(at = "Promise 8", value = "or (the tape stays) there are 4.")
@@ -586,6 +591,16 @@ final class TellingEdges {
         due.is("none any more", x.fact(NONE, true, true), 0);
         due.is("FACTS", x.about(8), 0);
         due.is("left again", x.left(NONE), 256);
+        for (int kind = 0; kind < 4; kind++) {
+            WhatWasNearly z = Due.ruled("event was 0;".repeat(10), 1);
+            for (int so = 0; so < 2; so++) {
+                z.fact(0, kind < 2, so == 0);
+                z.fact(kind % 2 * 9, true, so == 1);
+            }
+            due.is("facts that can't be", z.left(NONE), 0);
+            due.is("none any more of kind " + kind, z.fact(NONE, false, false), 0);
+            due.is("all are left", z.left(NONE), 2);
+        }
         WhatWasNearly y = Museums.full();
         due.is("none any more, of 8", y.fact(NONE, false, true), 0);
         due.is("the first again", y.fact(7, false, true), 1);
