@@ -12,33 +12,13 @@ import java.util.TreeSet;
 import java.util.regex.Matcher;
 import java.util.regex.Pattern;
 
-/** The public face, and those rules of LANGUAGE.md that reflection and a look at the source can tell. */
+/** The public face, as the document has it; and that no call makes an object or throws. */
 public final class RulesTest {
-    private static final String[] FACE = {
-        "int choice(int, int)", "int piece(int, int, int, int)", "int room(int, int)", "int person(int, int, int)",
-        "int feed(int, int, int, int, int)", "int end(int)", "int text()", "int fault(int)", "boolean by(int)",
-        "int turn(int)", "boolean set(int, int)", "boolean put(int, int)", "int take(int)", "int played(int)",
-        "int years(int, int)", "int undo()", "int ofChoice(int, int)", "int ofPiece(int, int)", "int ofRoom(int, int)",
-        "int was()", "int agrees(int, int)", "int follows(int)", "int mayBe(int)", "int cannot()", "int most(int, boolean)",
-        "int clash(int)", "int fact(int, boolean, boolean)", "int left(int)", "int sure(boolean)", "int ask(int)",
-        "int halves()", "int leanOn(int)", "int agreeIn(int)", "int elders(int)", "int nextDoor()", "int empty()",
-        "int least(int, boolean)", "int noMatter(int)", "int turnsIt(int, int, boolean)", "int there(int, int)",
-        "int thereIn(int)", "int lookedFor(int)", "int walk(int, int, int)", "int differ(int, int, int)",
-        "int unlike(int, int)", "int gifts()", "int chance(int, boolean)", "int chanceOf(int, boolean)", "int nearly(int)",
-        "int laidOut(int, int)", "int alike(int)", "int image()", "int back()", "int about(int)",
-    };
-    private static final String[] FORBIDDEN = {
-        "throw", "throws", "try", "catch", "finally", "synchronized", "assert", "goto", "native", "transient", "volatile",
-        "System\\.(?!arraycopy)\\w+", "Random", "Thread", "Object", "hashCode", "toString\\(", "\\w+Exact", "->", "::", "\\bvar\\b",
-        "protected", "yield", "sealed", "permits", "static\\s*\\{", "this\\s*\\(", "super\\s*\\(", "@\\w+",
-    };
-
     private static int wrong;
 
     public static void main(String[] args) throws Exception {
-        face();
-        classes();
-        source(Files.readString(Path.of(args.length > 0 ? args[0] : "src/main/java/WhatWasNearly.java")));
+        face(Files.readString(Path.of("../shared/DOC.md")));
+        names();
         makesNothing();
         anyArguments();
         System.out.println(wrong == 0 ? "the rules are kept" : wrong + " rules broken");
@@ -54,11 +34,12 @@ public final class RulesTest {
         }
     }
 
-    private static void face() {
+    private static void face(String document) {
         Class<?> type = WhatWasNearly.class;
         check(Modifier.isPublic(type.getModifiers()) && Modifier.isFinal(type.getModifiers()), "public and final");
         check(type.getPackageName().isEmpty(), "no package");
-        Set<String> due = new TreeSet<>(List.of(FACE));
+        Set<String> due = faceOf(document);
+        check(due.size() == 54, "the document's face has 54 methods, with the constructor 55 promises");
         Set<String> seen = new TreeSet<>();
         for (Method m : type.getDeclaredMethods()) {
             if (!Modifier.isPrivate(m.getModifiers())) {
@@ -87,68 +68,30 @@ public final class RulesTest {
         return String.join(", ", names);
     }
 
-    private static void classes() {
-        List<Class<?>> all = new ArrayList<>(List.of(WhatWasNearly.class.getDeclaredClasses()));
-        check(all.size() <= 11, "at most some twelve classes");
+    /** The methods that stand in the document under "The public face", without the names of parameters. */
+    private static Set<String> faceOf(String document) {
+        Set<String> methods = new TreeSet<>();
+        String face = document.substring(document.indexOf("## The public face"), document.indexOf("## Terms"));
+        Matcher m = Pattern.compile("public (int|boolean) (\\w+)\\(([^)]*)\\);").matcher(face);
+        while (m.find()) {
+            methods.add(m.group(1) + " " + m.group(2) + "(" + m.group(3).replaceAll(" \\w+(?=,|$)", "") + ")");
+        }
+        return methods;
+    }
+
+    /** Rule 1: no private method, in whatever class, bears the name of a public one. */
+    private static void names() {
         Set<String> open = new TreeSet<>();
         for (Method m : WhatWasNearly.class.getDeclaredMethods()) {
             if (Modifier.isPublic(m.getModifiers())) {
                 open.add(m.getName());
             }
         }
-        for (Class<?> c : all) {
-            check(Modifier.isStatic(c.getModifiers()) && !Modifier.isPublic(c.getModifiers())
-                && !Modifier.isProtected(c.getModifiers()), c + " is static and not public");
-            check(c.getDeclaredClasses().length == 0, c + " has no class of its own");
-        }
+        List<Class<?>> all = new ArrayList<>(List.of(WhatWasNearly.class.getDeclaredClasses()));
         all.add(WhatWasNearly.class);
         for (Class<?> c : all) {
-            int fields = 0;
-            for (Field f : c.getDeclaredFields()) {
-                if (!Modifier.isStatic(f.getModifiers())) {
-                    fields++;
-                } else {
-                    check(Modifier.isFinal(f.getModifiers()) && f.getType().isPrimitive(), f + " is a constant");
-                }
-            }
-            check(fields <= 20, c + " has at most some twenty fields");
             for (Method m : c.getDeclaredMethods()) {
-                check(m.getParameterCount() <= 7, m + " has at most seven parameters");
                 check(Modifier.isPublic(m.getModifiers()) || !open.contains(m.getName()), m + " bears no name of the face");
-            }
-        }
-    }
-
-    private static void source(String source) {
-        String code = source.replaceAll("(?s)/\\*.*?\\*/", " ").replaceAll("//[^\n]*", " ");
-        String bare = code.replaceAll("\"[^\"]*\"", "\"\"").replaceAll("'\\\\?.'", "' '");
-        for (String word : FORBIDDEN) {
-            Matcher m = Pattern.compile(word.matches("\\w+") ? "\\b" + word + "\\b" : word).matcher(bare);
-            check(!m.find(), "no " + word + " in the source");
-        }
-        Matcher imports = Pattern.compile("import ([^;]+);").matcher(bare);
-        while (imports.find()) {
-            check(imports.group(1).equals("java.util.Arrays"), "import " + imports.group(1));
-        }
-        check(!bare.contains("\"\" +") && !bare.contains("+ \"\""), "no texts joined by +");
-        for (int i = 0; i < source.length(); i++) {
-            check(source.charAt(i) < 127, "signs of the source at " + i);
-        }
-        methodsAreShort(source);
-    }
-
-    private static void methodsAreShort(String source) {
-        String[] lines = source.split("\n");
-        int start = -1;
-        String end = "";
-        for (int i = 0; i < lines.length; i++) {
-            Matcher m = Pattern.compile("^( {4}| {8})(?!\\s)[^=;/*]*\\([^=;]*\\) \\{$").matcher(lines[i]);
-            if (start < 0 && m.matches()) {
-                start = i;
-                end = m.group(1) + "}";
-            } else if (start >= 0 && lines[i].equals(end)) {
-                check(i - start < 60, "the method at line " + (start + 1) + " is short");
-                start = -1;
             }
         }
     }
