@@ -153,13 +153,15 @@ public final class RulesTest {
 
     /** No arguments whatever may make a call fail. */
     private static void anyArguments() throws Exception {
-        int[] numbers = {Integer.MIN_VALUE, -1000, -2, -1, 0, 1, 2, 5, 7, 8, 9, 10, 31, 63, 255, 256, 1023, 1024, 9999,
+        int[] many = {Integer.MIN_VALUE, -1000, -2, -1, 0, 1, 2, 5, 7, 8, 9, 10, 31, 63, 255, 256, 1023, 1024, 9999,
             Integer.MAX_VALUE};
+        int[] few = {Integer.MIN_VALUE, -1, 0, 1, 2, 255, 256, 1023, Integer.MAX_VALUE};
         for (int told = 0; told < 2; told++) {
             for (Method m : WhatWasNearly.class.getDeclaredMethods()) {
-                if (!Modifier.isPublic(m.getModifiers()) || m.getParameterCount() > 3) {
+                if (!Modifier.isPublic(m.getModifiers())) {
                     continue;
                 }
+                int[] numbers = m.getParameterCount() > 3 ? few : many;
                 WhatWasNearly x = new WhatWasNearly();
                 if (told == 1) {
                     run(x);
